@@ -35,6 +35,7 @@ public final class ClothPrices {
     private final Trade trade;
     private final Watcher watcher;
     private final Sums sums;
+    private final Meetings meetings;
     private final Book book;
     private int faultByte;
 
@@ -51,6 +52,7 @@ public final class ClothPrices {
         trade = new Trade(market);
         watcher = new Watcher();
         sums = new Sums(watcher);
+        meetings = new Meetings(market);
         book = new Book(market);
         faultByte = NONE;
     }
@@ -339,8 +341,8 @@ public final class ClothPrices {
 
     public int meetings(int what) {
         switch (what) {
-            case 0: return market.meetingsByHands();
-            case 1: return market.meetingsByOrder();
+            case 0: return meetings.byHands();
+            case 1: return meetings.byOrder();
             default: return OUTSIDE;
         }
     }
@@ -472,9 +474,6 @@ public final class ClothPrices {
         /** RESERVE, PURSE or fee, by the PERSON's sort. */
         final int[] limits = new int[MOST_PERSONS];
         final int[] worths = new int[MOST_BUYERS * MOST_LOTS];
-        /** How many hands a PERSON has given in a BEAT: no pair waits beyond five BEATS of each side. */
-        private static final int MOST_ROUNDS = 12;
-        private final int[] given = new int[MOST_PERSONS * MOST_ROUNDS];
 
         Market() {
             clear();
@@ -545,62 +544,6 @@ public final class ClothPrices {
                 offerer = Math.max(0, Math.max(0, share - k * cost) - offerer);
             }
             return limits[seller] + offerer;
-        }
-
-        private boolean wantToMeet(int seller, int buyer) {
-            return limits[seller] <= worthOf(buyer, seller);
-        }
-
-        int meetingsByHands() {
-            int most = 0;
-            for (int s = 0; s < sellers; s++) {
-                int count = 0;
-                for (int b = 0; b < buyers; b++) {
-                    count += wantToMeet(s, b) ? 1 : 0;
-                }
-                most = Math.max(most, beatsFor(count, s));
-            }
-            for (int b = 0; b < buyers; b++) {
-                int count = 0;
-                for (int s = 0; s < sellers; s++) {
-                    count += wantToMeet(s, b) ? 1 : 0;
-                }
-                most = Math.max(most, beatsFor(count, sellers + b));
-            }
-            return most;
-        }
-
-        private int beatsFor(int count, int p) {
-            int own = Math.max(1, hands[p]);
-            return (count + own - 1) / own;
-        }
-
-        int meetingsByOrder() {
-            Arrays.fill(given, 0);
-            int beats = 0;
-            for (int s = 0; s < sellers; s++) {
-                for (int b = 0; b < buyers; b++) {
-                    if (wantToMeet(s, b)) {
-                        beats = Math.max(beats, meetFirst(s, sellers + b) + 1);
-                    }
-                }
-            }
-            return beats;
-        }
-
-        /** Gives a hand of each in the first BEAT in which both have one: that BEAT. */
-        private int meetFirst(int p, int q) {
-            int t = 0;
-            while (t < MOST_ROUNDS - 1 && !(hasHandIn(p, t) && hasHandIn(q, t))) {
-                t++;
-            }
-            given[p * MOST_ROUNDS + t]++;
-            given[q * MOST_ROUNDS + t]++;
-            return t;
-        }
-
-        private boolean hasHandIn(int p, int t) {
-            return given[p * MOST_ROUNDS + t] < hands[p];
         }
     }
 
@@ -1166,7 +1109,8 @@ public final class ClothPrices {
             long top = table[set] - NOBODY * PLACES[l];
             for (int b = 0; b < market.buyers; b++) {
                 if ((set >> b & 1) == 1) {
-                    top = Math.max(top, table[set - (1 << b)] + scores[b * MOST_LOTS + l]);
+                    long other = table[set - (1 << b)] + scores[b * MOST_LOTS + l];
+                    top = other > top ? other : top;
                 }
             }
             return top;
@@ -1342,6 +1286,76 @@ public final class ClothPrices {
 
         private boolean hasBit(int row, int sum) {
             return sum >= 0 && sum <= TOP_SUM && (rows[row + sum / 64] >>> (sum % 64) & 1L) == 1L;
+        }
+    }
+
+    /** Whom all want to HOLD, and in how many BEATS they can. */
+    private static final class Meetings {
+        /** No pair waits longer than for five others of each side. */
+        private static final int MOST_BEATS = 12;
+
+        private final Market market;
+        /** How many hands a PERSON has given in a BEAT. */
+        private final int[] given = new int[MOST_PERSONS * MOST_BEATS];
+
+        Meetings(Market market) {
+            this.market = market;
+        }
+
+        private boolean isWanted(int seller, int buyer) {
+            return market.limits[seller] <= market.worthOf(buyer, seller);
+        }
+
+        int byHands() {
+            int most = 0;
+            for (int s = 0; s < market.sellers; s++) {
+                int count = 0;
+                for (int b = 0; b < market.buyers; b++) {
+                    count += isWanted(s, b) ? 1 : 0;
+                }
+                most = Math.max(most, beatsFor(count, s));
+            }
+            for (int b = 0; b < market.buyers; b++) {
+                int count = 0;
+                for (int s = 0; s < market.sellers; s++) {
+                    count += isWanted(s, b) ? 1 : 0;
+                }
+                most = Math.max(most, beatsFor(count, market.sellers + b));
+            }
+            return most;
+        }
+
+        private int beatsFor(int count, int p) {
+            int hands = Math.max(1, market.hands[p]);
+            return (count + hands - 1) / hands;
+        }
+
+        int byOrder() {
+            Arrays.fill(given, 0);
+            int beats = 0;
+            for (int s = 0; s < market.sellers; s++) {
+                for (int b = 0; b < market.buyers; b++) {
+                    if (isWanted(s, b)) {
+                        beats = Math.max(beats, meet(s, market.sellers + b) + 1);
+                    }
+                }
+            }
+            return beats;
+        }
+
+        /** Gives a hand of each in the first BEAT in which both have one: that BEAT. */
+        private int meet(int p, int q) {
+            int t = 0;
+            while (t < MOST_BEATS - 1 && !(hasHandIn(p, t) && hasHandIn(q, t))) {
+                t++;
+            }
+            given[p * MOST_BEATS + t]++;
+            given[q * MOST_BEATS + t]++;
+            return t;
+        }
+
+        private boolean hasHandIn(int p, int t) {
+            return given[p * MOST_BEATS + t] < market.hands[p];
         }
     }
 

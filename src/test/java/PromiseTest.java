@@ -149,12 +149,23 @@ public final class PromiseTest {
         due("4 at 0", x.fault(), 0);
         x.market();
         due("4 the latest", x.fault(), NONE);
+        Check.feed(x, "cost 5;binds 7;");
+        due("3 a longer text", x.market(), 0);
+        Check.feed(x, "cost 5");
+        due("3 nothing of it is left", x.market(), -11);
+        due("4 at the end", x.fault(), 6);
         String six = "seller 1 1;".repeat(6);
         fault(";", 1, 0);
         fault("  5;", 1, 2);
         fault("Seller 1 1;", 1, 0);
         fault("seller 1 1;;", 1, 11);
         fault("sellers 1 1;", 1, 0);
+        fault("xeller 1 1;", 1, 0);
+        fault("sellex 1 1;", 1, 0);
+        fault("xuyer", 1, 0);
+        fault("xroker 1 1;", 1, 0);
+        fault("xinds 1;", 1, 0);
+        fault("xost 1;", 1, 0);
         fault("sel ler 1 1;", 1, 0);
         fault("seller", 1, 6);
         fault("seller  ", 1, 8);
@@ -186,6 +197,7 @@ public final class PromiseTest {
         fault("seller 1 1;seller 1 1;buyer 1 5 1,;", 1, 34);
         fault("seller 1 1;seller 1 1;buyer 1 5 1 1;", 1, 34);
         fault("seller 1 1;buyer 3 5 1;", 2, 17);
+        fault("seller 1 1;buyer 0 5 1;", 2, 17);
         fault("seller 1 1;buyer 1 10000 1;", 2, 19);
         fault("seller 1 1;buyer 1 5 1000;", 2, 21);
         fault("broker 0 1;", 2, 7);
@@ -596,6 +608,7 @@ public final class PromiseTest {
     private static void lie() {
         ClothPrices x = Check.market(FAIR);
         due("20 higher", x.lie(0, 0, 0, 49), 4);
+        due("20 lowest", x.lie(0, 0, 0, 0), -20);
         due("20 the truth", x.lie(0, 0, 0, 40), 0);
         due("20 too high", x.lie(0, 0, 0, 61), -10);
         due("20 MOST", x.lie(2, 2, 0, 40), 20);
@@ -627,6 +640,11 @@ public final class PromiseTest {
         ClothPrices y = Check.market("seller 7 1;");
         due("21 nobody buys: the least", y.bestLie(1, 0, 0, 0), 0);
         due("21 nobody buys", y.bestLie(1, 0, 0, 1), 0);
+        ClothPrices z = Check.market("seller 0 1;buyer 1 9 999;");
+        due("21 as high as can be", z.bestLie(0, 0, 0, 0), 999);
+        due("21 as high as can be", z.bestLie(0, 0, 0, 1), 500);
+        due("21 as low as can be", z.bestLie(2, 1, 0, 0), 0);
+        due("21 as low as can be", z.bestLie(2, 1, 0, 1), 999);
     }
 
     private static void seen() {
@@ -657,6 +675,10 @@ public final class PromiseTest {
         due("24", x.fits(0, 0), 4);
         due("24", x.fits(0, 1), 899);
         due("24 another lot", x.fits(1, 0), 999);
+        x.seen(0, 36, 9, false);
+        due("24 one", x.fits(0, 0), 1);
+        due("24 the least", x.fits(0, 1), 999);
+        due("24 the greatest", x.fits(0, 2), 999);
         x.seen(1, 1, 0, true);
         due("24 double", x.fits(1, 0), 3);
         due("24 double", x.fits(1, 1), 2);
@@ -699,6 +721,45 @@ public final class PromiseTest {
         due("25 1, 10, 100 each", x.wentFor(112, 1), 15);
         due("25 1, 10, 100 each", x.wentFor(111, 0), 4);
         due("25 1, 10, 100 each", x.wentFor(5, 1), NONE);
+        Check.feed(x, "seller 0 1;".repeat(6));
+        x.market();
+        due("25 another market", x.wentFor(5994, 1), 63);
+        due("25 another market", x.wentFor(5000, 0), 1);
+        due("25 another market", x.wentFor(4995, 0), 7);
+        Check.feed(x, "seller 0 1;");
+        x.market();
+        for (int s = 0; s <= 1100; s++) {
+            due("25 one lot for " + s, x.wentFor(s, 0), s <= 999 ? 1 : 0);
+            due("25 one lot for " + s, x.wentFor(s, 1), s == 0 ? 0 : s <= 999 ? 1 : NONE);
+        }
+        Check.feed(x, "seller 0 1;".repeat(6));
+        x.market();
+        x.seen(0, 13, 0, false);
+        x.seen(1, 1, 0, false);
+        for (int l = 2; l < 6; l++) {
+            x.seen(l, 60, 0, false);
+        }
+        due("25 319 and 1", x.wentFor(320, 0), 1);
+        due("25 319 and 1", x.wentFor(320, 1), 3);
+        greatSums();
+    }
+
+    /** Three lots near the greatest prices, at either half of six. */
+    private static void greatSums() {
+        for (int first = 0; first <= 3; first += 3) {
+            ClothPrices x = Check.market("seller 0 1;".repeat(6));
+            for (int l = 0; l < 6; l++) {
+                x.seen(l, l < first || l > first + 2 ? 60 : 26, 0, false);
+            }
+            int[] prices = {899, 989, 998};
+            boolean[] reached = new boolean[3000];
+            for (int k = 0; k < 27; k++) {
+                reached[prices[k / 9] + prices[k / 3 % 3] + prices[k % 3]] = true;
+            }
+            for (int s = 2500; s < 3000; s++) {
+                due("25 three lots for " + s, x.wentFor(s, 1), reached[s] ? 7 << first : NONE);
+            }
+        }
     }
 
     private static void meetings() {

@@ -23,6 +23,9 @@ public final class RandomRunsTest {
                 break;
             }
         }
+        for (long seed = from; seed < from + runs / 10; seed++) {
+            new RandomRunsTest(seed).sums();
+        }
         Check.end();
     }
 
@@ -38,6 +41,29 @@ public final class RandomRunsTest {
             }
         }
         return true;
+    }
+
+    /** What lots went for, where few prices fit, so that a sum that is wrong shows. */
+    private void sums() {
+        int lots = among(1, 6);
+        text("seller 1 1;".repeat(lots));
+        answers(x.market(), y.market(), "market");
+        for (int l = 0; l < lots; l++) {
+            int w = chance.nextBoolean() ? among(1, 3) : among(22, 27);
+            boolean isDouble = chance.nextInt(4) == 0;
+            answers(x.seen(l, w, 0, isDouble), y.seen(l, w, 0, isDouble), "seen", l, w, 0, isDouble);
+        }
+        for (int k = 0; k < 60; k++) {
+            int s = 0;
+            for (int l = 0; l < lots; l++) {
+                s += chance.nextBoolean() ? Math.max(0, x.fits(l, among(1, 2))) : 0;
+            }
+            s += chance.nextInt(4) * chance.nextInt(12) - chance.nextInt(2) * 9;
+            int[] many = answers(x.wentFor(s, 0), y.wentFor(s, 0), "wentFor", s, 0);
+            Check.due(story.toString(), many[0], many[1]);
+            int[] common = answers(x.wentFor(s, 1), y.wentFor(s, 1), "wentFor", s, 1);
+            Check.due(story.toString(), common[0], common[1]);
+        }
     }
 
     /** Whether all that can be asked about hands, bindings and sales is the Model's. */
