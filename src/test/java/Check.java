@@ -40,6 +40,15 @@ final class Check {
         return x.press(p, q, lot, kind, f);
     }
 
+    /** A PRESS for any number up to 2047, by its bits: twice, and one more where a bit is. */
+    static String signs(int number) {
+        StringBuilder text = new StringBuilder();
+        for (int bit = 31 - Integer.numberOfLeadingZeros(number); bit >= 0; bit--) {
+            text.append(text.length() > 0 ? "d" : "").append((number >> bit & 1) == 1 ? "i" : "");
+        }
+        return text.toString();
+    }
+
     static void end() {
         System.out.println(asked + " answers, " + wrong + " not as due");
         if (wrong != 0) {
