@@ -17,6 +17,7 @@ public final class DrawEdgeTest {
         buyerPrices();
         purses();
         lots();
+        oneByOne();
         boundAlready();
         sales();
         soldInTheSameBeat();
@@ -173,6 +174,29 @@ public final class DrawEdgeTest {
             x.drift(1);
             for (int m = 0; m < 6; m++) {
                 due("8 about LOT " + m, x.bound(6, m, 0), m == l ? 10 * l + 7 : NONE);
+            }
+        }
+    }
+
+    /** Each SELLER, then each BUYER, each with its own DRAWS. */
+    private static void oneByOne() {
+        for (int seed = 1; seed <= 40; seed++) {
+            ClothPrices x = Check.market("seller 500 1;seller 600 1;seller 700 1;buyer 1 999 100,200,300;"
+                + "buyer 1 999 150,250,350;buyer 1 999 199,299,399;");
+            x.seed(seed);
+            x.drift(1);
+            int s = seed;
+            for (int l = 0; l < 3; l++) {
+                s = next(s);
+                due("8 SELLER " + l, x.bound(l, l, 0), 500 + 100 * l + s / 65536 % 50);
+            }
+            for (int b = 0; b < 3; b++) {
+                int lot = next(s) / 65536 % 3;
+                s = after(s, 2);
+                for (int l = 0; l < 3; l++) {
+                    int price = x.worth(b, l) - s / 65536 % 50;
+                    due("8 BUYER " + b + " about " + l, x.bound(3 + b, l, 0), l == lot ? price : NONE);
+                }
             }
         }
     }

@@ -26,6 +26,7 @@ public final class PressEdgeTest {
         voids();
         purse();
         purseBesides();
+        pursesOfSix();
         purseSpent();
         purseFreed();
         saleAtLikePrice();
@@ -365,6 +366,20 @@ public final class PressEdgeTest {
         due("12 all is over: just enough", press(x, 100, 3, 4, 2, PLAIN), 100);
         x.beat(4);
         due("12 about the LOT itself", press(x, 100, 3, 4, 2, PLAIN), 100);
+    }
+
+    /** As many LOTS as can be: what another PERSON is bound to is no part of it. */
+    private static void pursesOfSix() {
+        ClothPrices x = Check.market("seller 1 1;".repeat(6) + "buyer 1 100 1,1,1,1,1,1;".repeat(6) + "broker 2 1;");
+        for (int b = 5; b >= 0; b--) {
+            x.hold(6 + b, 12);
+            for (int l = 0; l < 5; l++) {
+                due("12 BUYER " + b, press(x, 8 + 2 * l, 6 + b, 12, l, PLAIN), 8 + 2 * l);
+            }
+            due("12 BUYER " + b + ", one too many", press(x, 41, 6 + b, 12, 5, PLAIN), NOT);
+            due("12 BUYER " + b + ", just enough", press(x, 40, 6 + b, 12, 5, PLAIN), 40);
+            x.loose(6 + b, 12);
+        }
     }
 
     /** Less what it spent: what was asked, not what was offered. */

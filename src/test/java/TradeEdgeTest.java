@@ -29,6 +29,8 @@ public final class TradeEdgeTest {
         liesOfBuyers();
         lieOfOneWhoLoses();
         lieAboutAnotherLot();
+        edgesOfAnotherLot();
+        liesOfSix();
         likeLies();
         honest();
         Check.end();
@@ -349,6 +351,50 @@ public final class TradeEdgeTest {
         due("20 another that tells as much", x.lie(HALFWAY, 3, 1, 10), -10);
     }
 
+    /**
+     * GAIN 32: BUYER 2 has LOT 0, BUYER 4 LOT 1, which has LEAST 15, MOST 22; of LOT 0 these are 20, 27.
+     * If BUYER 2 tells nothing of LOT 0, GAIN is 25 and it has LOT 1, for 22 or 25.
+     * If BUYER 4 tells 999 of LOT 0, GAIN is 1004 and it has that LOT, for 20 or 999.
+     */
+    private static void edgesOfAnotherLot() {
+        ClothPrices x = Check.market("seller 10 1;seller 10 1;buyer 1 0 30,25;buyer 1 0 20,5;buyer 1 0 5,22;");
+        for (int round = 0; round < 2; round++) {
+            due("20 LEAST of LOT 1", x.lie(LEAST, 2, 0, 0), (25 - 22) - (30 - 20));
+            due("20 MOST of LOT 1", x.lie(MOST, 2, 0, 0), (25 - 25) - (30 - 27));
+            due("20 HALFWAY of LOT 1", x.lie(HALFWAY, 2, 0, 0), (25 - 17) - (30 - 20));
+            due("20 LEAST of LOT 0", x.lie(LEAST, 4, 0, 999), (5 - 20) - (22 - 15));
+            due("20 MOST of LOT 0", x.lie(MOST, 4, 0, 999), (5 - 999) - (22 - 22));
+            due("20 one that buys nothing", x.lie(MOST, 3, 1, 9), 0);
+        }
+        Check.feed(x, "seller 20 1;seller 10 1;buyer 1 0 30,25;");
+        x.market();
+        due("20 of another market", x.lie(MOST, 2, 0, 0), (25 - 25) - (25 - 15));
+        due("20 of another market", x.lie(LEAST, 2, 1, 9), (30 - 20) - (25 - 10));
+        due("20 of another market", x.lie(LEAST, 2, 0, 99), (30 - 20) - (25 - 10));
+    }
+
+    /** As many LOTS and BUYERS as can be, all alike: prices are 15, 10, 20. */
+    private static void liesOfSix() {
+        ClothPrices x = Check.market("seller 10 1;".repeat(6) + "buyer 1 0 20,20,20,20,20,20;".repeat(6));
+        for (int l = 0; l < 6; l++) {
+            due("20 HALFWAY, SELLER " + l, x.lie(HALFWAY, l, l, 20), 5);
+            due("20 HALFWAY, SELLER " + l, x.lie(HALFWAY, l, l, 21), -5);
+            due("20 LEAST, SELLER " + l, x.lie(LEAST, l, l, 20), 10);
+            due("20 MOST, SELLER " + l, x.lie(MOST, l, l, 21), -10);
+            due("20 HALFWAY, BUYER " + l + ": another LOT", x.lie(HALFWAY, 6 + l, 5 - l, 0), 0);
+            due("20 MOST, BUYER " + l, x.lie(MOST, 6 + l, l, 20), 0);
+            due("21 SELLER " + l, x.bestLie(HALFWAY, l, l, 0), 20);
+            due("21 SELLER " + l, x.bestLie(LEAST, l, l, 1), 10);
+        }
+        ClothPrices y = Check.market("seller 10 1;".repeat(6) + "buyer 1 0 20,20,20,20,20,20;".repeat(5) + "buyer 1 0 0,0,0,0,0,0;");
+        for (int rule = HALFWAY; rule <= MOST; rule++) {
+            for (int l = 0; l < 6; l++) {
+                due("20 it buys nothing still", y.lie(rule, 11, l, 9), 0);
+                due("20 it buys for 10", y.lie(rule, 11, l, 10), -10);
+            }
+        }
+    }
+
     private static void bestLie(ClothPrices x, int rule, int p, int v, int worth) {
         due("21 v by RULE " + rule + " of " + p, x.bestLie(rule, p, 0, 0), v);
         due("21 worth by RULE " + rule + " of " + p, x.bestLie(rule, p, 0, 1), worth);
@@ -371,9 +417,10 @@ public final class TradeEdgeTest {
         bestLie(y, LEAST, 1, 0, 0);
         bestLie(y, MOST, 0, 0, 0);
         bestLie(y, MOST, 1, 0, 999);
-        ClothPrices z = two(0, 998, 0);
-        bestLie(z, HALFWAY, 0, 998, 499);
-        bestLie(z, HALFWAY, 1, 0, 499);
+        ClothPrices z = two(1, 60, 0);
+        bestLie(z, HALFWAY, 1, 1, 29);
+        bestLie(z, MOST, 1, 1, 59);
+        bestLie(z, LEAST, 1, 1, 0);
     }
 
     /** By LEAST prices no BUYER, by MOST prices no SELLER gains by a lie. */
