@@ -93,13 +93,17 @@ final class Model {
         if (n < 1 || n > 8) {
             return OUTSIDE;
         }
-        if (text.length() + n > 500) {
-            return FULL;
-        }
         StringBuilder more = new StringBuilder();
         for (int k = 0; k < n; k++) {
             more.insert(0, (char) (bytes & 255));
             bytes >>= 8;
+        }
+        return feed(more.toString());
+    }
+
+    int feed(String more) {
+        if (text.length() + more.length() > 500) {
+            return FULL;
         }
         text += more;
         return text.length();
@@ -133,7 +137,11 @@ final class Model {
     }
 
     private static int howMany(List<Person> all, char sort) {
-        return (int) all.stream().filter(p -> p.sort == sort).count();
+        int count = 0;
+        for (Person p : all) {
+            count += p.sort == sort ? 1 : 0;
+        }
+        return count;
     }
 
     int market() {
@@ -718,7 +726,7 @@ final class Model {
                 int last = 31 - Integer.numberOfLeadingZeros(set);
                 boolean[] before = reached[set - (1 << last)];
                 for (int price : fitting(last)) {
-                    for (int v = price; v < 6000; v++) {
+                    for (int v = price; v <= s && v < 6000; v++) {
                         reached[set][v] |= before[v - price];
                     }
                 }

@@ -726,12 +726,7 @@ public final class PromiseTest {
         due("25 another market", x.wentFor(5994, 1), 63);
         due("25 another market", x.wentFor(5000, 0), 1);
         due("25 another market", x.wentFor(4995, 0), 7);
-        Check.feed(x, "seller 0 1;");
-        x.market();
-        for (int s = 0; s <= 1100; s++) {
-            due("25 one lot for " + s, x.wentFor(s, 0), s <= 999 ? 1 : 0);
-            due("25 one lot for " + s, x.wentFor(s, 1), s == 0 ? 0 : s <= 999 ? 1 : NONE);
-        }
+        oneLot();
         Check.feed(x, "seller 0 1;".repeat(6));
         x.market();
         x.seen(0, 13, 0, false);
@@ -744,19 +739,32 @@ public final class PromiseTest {
         greatSums();
     }
 
+    /** A new object for each hundred sums: none is asked more than the 512 times that are promised. */
+    private static void oneLot() {
+        for (int from = 0; from <= 1000; from += 100) {
+            ClothPrices x = Check.market("seller 0 1;");
+            for (int s = from; s < from + 100; s++) {
+                due("25 one lot for " + s, x.wentFor(s, 0), s <= 999 ? 1 : 0);
+                due("25 one lot for " + s, x.wentFor(s, 1), s == 0 ? 0 : s <= 999 ? 1 : NONE);
+            }
+        }
+    }
+
     /** Three lots near the greatest prices, at either half of six. */
     private static void greatSums() {
-        for (int first = 0; first <= 3; first += 3) {
+        int[] prices = {899, 989, 998};
+        boolean[] reached = new boolean[3000];
+        for (int k = 0; k < 27; k++) {
+            reached[prices[k / 9] + prices[k / 3 % 3] + prices[k % 3]] = true;
+        }
+        for (int k = 0; k < 4; k++) {
+            int first = k % 2 * 3;
+            int from = k < 2 ? 2500 : 2750;
             ClothPrices x = Check.market("seller 0 1;".repeat(6));
             for (int l = 0; l < 6; l++) {
                 x.seen(l, l < first || l > first + 2 ? 60 : 26, 0, false);
             }
-            int[] prices = {899, 989, 998};
-            boolean[] reached = new boolean[3000];
-            for (int k = 0; k < 27; k++) {
-                reached[prices[k / 9] + prices[k / 3 % 3] + prices[k % 3]] = true;
-            }
-            for (int s = 2500; s < 3000; s++) {
+            for (int s = from; s < from + 250; s++) {
                 due("25 three lots for " + s, x.wentFor(s, 1), reached[s] ? 7 << first : NONE);
             }
         }

@@ -1,44 +1,61 @@
 import java.util.Random;
 
-/** Runs of calls by chance (the same ones each time), each answer held against the Model's. */
+/**
+ * Runs of calls by chance (the same ones each time), each answer held against the Model's. What to call next is asked
+ * of the Model, so that no more than the 512 calls that are promised are made of an object.
+ */
 public final class RandomRunsTest {
+    private static final int MOST_CALLS = 512;
+    /** What isSameAllOver asks at most: of 14 PERSONS and 6 LOTS. */
+    private static final int CALLS_ALL_OVER = 10 + 14 * 5 + 14 * 12 + 12;
+    /** What a step calls at most: the longest text that newMarket makes, market() and fault(). */
+    private static final int CALLS_A_STEP = 63 + 2;
+
     private final Random chance;
     private final ClothPrices x = new ClothPrices();
     private final Model y = new Model();
     private final StringBuilder story = new StringBuilder();
+    /** Calls of the object so far. */
+    private int calls;
     /** Dear calls of the Model: so many a run. */
-    private int dearCalls = 2;
+    private int dearCalls;
 
-    private RandomRunsTest(long seed) {
+    private RandomRunsTest(long seed, int dearCalls) {
         chance = new Random(seed);
+        this.dearCalls = dearCalls;
     }
 
     /** With an argument: from that seed on, with a second one: so many runs. */
     public static void main(String[] args) {
         long from = args.length > 0 ? Long.parseLong(args[0]) : 1;
-        long runs = args.length > 1 ? Long.parseLong(args[1]) : 150;
+        long runs = args.length > 1 ? Long.parseLong(args[1]) : 3000;
         for (long seed = from; seed < from + runs; seed++) {
-            if (!new RandomRunsTest(seed).isRight(480)) {
+            if (!new RandomRunsTest(seed, seed % 20 == 0 ? 2 : 0).isRight()) {
                 System.out.println("run of seed " + seed);
                 break;
             }
         }
-        for (long seed = from; seed < from + runs / 10; seed++) {
-            new RandomRunsTest(seed).sums();
+        for (long seed = from; seed < from + runs / 200; seed++) {
+            new RandomRunsTest(seed, 0).sums();
         }
         Check.end();
     }
 
-    private boolean isRight(int calls) {
-        newMarket(false);
-        for (int k = 0; k < calls; k++) {
-            int at = story.length();
-            int[] answers = call();
-            Check.due(story.substring(at).trim(), answers[0], answers[1]);
-            if (answers[0] != answers[1] || !isSameAllOver()) {
-                System.out.println(story);
-                return false;
-            }
+    /** Steps, as many as chance has it and as there are calls for; then all that can be asked is held. */
+    private boolean isRight() {
+        int most = chance.nextInt(4) == 0 ? among(1, MOST_CALLS) : MOST_CALLS;
+        int at = 0;
+        int[] answers = newMarket(false);
+        while (isSame(story.substring(at).trim(), answers) && calls < most
+            && calls + CALLS_A_STEP + CALLS_ALL_OVER <= MOST_CALLS) {
+            at = story.length();
+            answers = call();
+        }
+        boolean same = answers[0] == answers[1] && isSameAllOver();
+        if (calls > MOST_CALLS || !same) {
+            Check.due("calls of one object within the 512 that are promised", calls > MOST_CALLS ? 1 : 0, 0);
+            System.out.println(story);
+            return false;
         }
         return true;
     }
@@ -56,7 +73,7 @@ public final class RandomRunsTest {
         for (int k = 0; k < 60; k++) {
             int s = 0;
             for (int l = 0; l < lots; l++) {
-                s += chance.nextBoolean() ? Math.max(0, x.fits(l, among(1, 2))) : 0;
+                s += chance.nextBoolean() ? Math.max(0, y.fits(l, among(1, 2))) : 0;
             }
             s += chance.nextInt(4) * chance.nextInt(12) - chance.nextInt(2) * 9;
             int[] many = answers(x.wentFor(s, 0), y.wentFor(s, 0), "wentFor", s, 0);
@@ -72,23 +89,28 @@ public final class RandomRunsTest {
         for (int what = 0; what <= 9; what++) {
             same &= isSame("told " + what, x.told(what), y.told(what));
         }
-        for (int p = 0; p < x.told(0) + x.told(1) + x.told(2); p++) {
+        for (int p = 0; p < persons(); p++) {
             for (int what = 0; what <= 4; what++) {
                 same &= isSame("person " + p + " " + what, x.person(p, what), y.person(p, what));
             }
-            for (int k = 0; k < 2 * x.told(0); k++) {
+            for (int k = 0; k < 2 * y.told(0); k++) {
                 same &= isSame("bound " + p + " " + k / 2 + " " + k % 2, x.bound(p, k / 2, k % 2), y.bound(p, k / 2, k % 2));
             }
         }
-        for (int k = 0; k < 2 * x.told(0); k++) {
+        for (int k = 0; k < 2 * y.told(0); k++) {
             same &= isSame("lot " + k / 2 + " " + k % 2, x.lot(k / 2, k % 2), y.lot(k / 2, k % 2));
         }
         return same;
     }
 
-    private static boolean isSame(String call, int got, int want) {
-        Check.due(call, got, want);
-        return got == want;
+    private boolean isSame(String call, int got, int want) {
+        calls++;
+        return isSame(call, new int[] {got, want});
+    }
+
+    private static boolean isSame(String call, int[] answers) {
+        Check.due(call, answers[0], answers[1]);
+        return answers[0] == answers[1];
     }
 
     private int[] call() {
@@ -106,16 +128,23 @@ public final class RandomRunsTest {
         }
     }
 
+    private int persons() {
+        return y.told(0) + y.told(1) + y.told(2);
+    }
+
+    /** Of one call of the object. */
     private int[] answers(int got, int want, String call, Object... arguments) {
+        calls++;
         story.append(call).append(java.util.Arrays.toString(arguments)).append(" -> ").append(want).append('\n');
         return new int[] {got, want};
     }
 
     private void text(String text) {
         story.append("\"").append(text).append("\" ");
-        for (int i = 0; i < text.length(); i++) {
-            x.feed(1, text.charAt(i));
-            y.feed(1, text.charAt(i));
+        Check.feed(x, text);
+        calls += (text.length() + 7) / 8;
+        for (int i = 0; i < text.length(); i += 8) {
+            y.feed(text.substring(i, Math.min(text.length(), i + 8)));
         }
     }
 
@@ -125,21 +154,20 @@ public final class RandomRunsTest {
 
     /** Mostly a person, at times one that there is not. */
     private int someone() {
-        int persons = x.told(0) + x.told(1) + x.told(2);
-        return chance.nextInt(20) == 0 ? among(-2, 15) : chance.nextInt(Math.max(1, persons));
+        return chance.nextInt(20) == 0 ? among(-2, 15) : chance.nextInt(Math.max(1, persons()));
     }
 
     private int someLot() {
-        return chance.nextInt(20) == 0 ? among(-2, 7) : chance.nextInt(Math.max(1, x.told(0)));
+        return chance.nextInt(20) == 0 ? among(-2, 7) : chance.nextInt(Math.max(1, y.told(0)));
     }
 
     private int someBuyer() {
-        return chance.nextInt(20) == 0 ? among(-2, 7) : chance.nextInt(Math.max(1, x.told(1)));
+        return chance.nextInt(20) == 0 ? among(-2, 7) : chance.nextInt(Math.max(1, y.told(1)));
     }
 
     /** A PERSON whose LOT l may be, or, at times, any. */
     private int dealer(int l) {
-        return chance.nextInt(3) == 0 ? l : chance.nextInt(8) == 0 ? someone() : x.told(0) + someBuyer();
+        return chance.nextInt(3) == 0 ? l : chance.nextInt(8) == 0 ? someone() : y.told(0) + someBuyer();
     }
 
     private String blanks(boolean needed) {
@@ -178,7 +206,6 @@ public final class RandomRunsTest {
             spoil(t);
         }
         text(t.toString());
-        answers(0, 0, "");
         if (chance.nextInt(10) == 0) {
             return answers(x.told(3), y.told(3), "told", 3);
         }
@@ -225,19 +252,19 @@ public final class RandomRunsTest {
     }
 
     private int[] presses() {
-        if (x.told(3) == 0 || chance.nextInt(8) == 0) {
+        if (y.told(3) == 0 || chance.nextInt(8) == 0) {
             text(signs());
         }
         if (chance.nextInt(12) == 0) {
             return answers(x.price(), y.price(), "price");
         }
         int p = someone();
-        for (int tries = 0; tries < 8 && x.person(p, 2) <= 0; tries++) {
+        for (int tries = 0; tries < 8 && y.person(p, 2) <= 0; tries++) {
             p = someone();
         }
         int q = partner(p);
-        int sellers = x.told(0);
-        boolean isBroker = p >= sellers + x.told(1);
+        int sellers = y.told(0);
+        boolean isBroker = p >= sellers + y.told(1);
         int f = isBroker ? other(p, q) : chance.nextInt(10) == 0 ? someone() : -1;
         int whom = f == -1 ? p : f;
         int lot = whom < sellers ? whom : q < sellers ? q : someLot();
@@ -248,7 +275,7 @@ public final class RandomRunsTest {
 
     /** Mostly one whose hand p HOLDS. */
     private int partner(int p) {
-        int held = x.person(p, 2);
+        int held = y.person(p, 2);
         if (held <= 0 || chance.nextInt(12) == 0) {
             return someone();
         }
@@ -306,7 +333,7 @@ public final class RandomRunsTest {
     }
 
     private int someSame(int p) {
-        return p - x.told(0);
+        return p - y.told(0);
     }
 
     private int[] trades() {
@@ -318,7 +345,7 @@ public final class RandomRunsTest {
                 int n = among(-1, 42);
                 return answers(x.bargain(l, b, n), y.bargain(l, b, n), "bargain", l, b, n);
             case 1:
-                what = among(-1, x.told(0) + 2);
+                what = among(-1, y.told(0) + 2);
                 return answers(x.best(what), y.best(what), "best", what);
             case 2:
                 return answers(x.span(l, what), y.span(l, what), "span", l, what);
@@ -334,10 +361,11 @@ public final class RandomRunsTest {
 
     private int[] dear() {
         int what = chance.nextInt(10) == 0 ? among(-1, 2) : among(0, 1);
-        if (dearCalls == 0) {
+        boolean isGreat = y.told(0) * y.told(1) > 6;
+        if (dearCalls == 0 && isGreat) {
             return answers(x.told(4), y.told(4), "told", 4);
         }
-        if (chance.nextBoolean()) {
+        if (dearCalls > 0 && chance.nextBoolean()) {
             dearCalls--;
             int s = chance.nextInt(3) == 0 ? among(-1, 10000) : among(0, 1200);
             return answers(x.wentFor(s, what), y.wentFor(s, what), "wentFor", s, what);
@@ -345,9 +373,7 @@ public final class RandomRunsTest {
         int l = someLot();
         int p = dealer(l);
         int rule = chance.nextInt(20) == 0 ? among(-1, 3) : among(0, 2);
-        if (x.told(0) > 4 && x.told(1) > 4) {
-            dearCalls--;
-        }
+        dearCalls -= isGreat ? 1 : 0;
         return answers(x.bestLie(rule, p, l, what), y.bestLie(rule, p, l, what), "bestLie", rule, p, l, what);
     }
 
@@ -375,7 +401,7 @@ public final class RandomRunsTest {
                 return answers(x.judge(), y.judge(), "judge");
             default:
                 int p = dealer(l);
-                int t = chance.nextInt(10) == 0 ? among(-1, 10001) : x.told(8) * 6 + among(0, 6);
+                int t = chance.nextInt(10) == 0 ? among(-1, 10001) : y.told(8) * 6 + among(0, 6);
                 int price = chance.nextInt(6) == 0 ? among(-1, 1001) : among(1, 20);
                 return answers(x.write(t, p, l, price), y.write(t, p, l, price), "write", t, p, l, price);
         }
